@@ -575,6 +575,9 @@ public final class BeggingLetter {
             int left = (1 << stopCount) - 1;
             for (int i = 0; i <= place && i < stopCount; i++) {
                 at = nextStop(left, at);
+                if (at < 0) {
+                    return NONE;
+                }
                 left ^= 1 << at;
             }
             return stops[at];
@@ -587,7 +590,7 @@ public final class BeggingLetter {
                     return next;
                 }
             }
-            return at;
+            return NONE;
         }
     }
 
@@ -1032,9 +1035,6 @@ public final class BeggingLetter {
             readCondition(ANY, 1);
             pass(')');
             draft.ends[rule] = draft.size;
-            if (at < length && here() != ';') {
-                fail(FAULT_SIGN);
-            }
         }
 
         /** A C, a PART of it, or a TEST, within so many that are open. */

@@ -78,6 +78,9 @@ final class CopiesTest {
     private static void nearest() {
         BeggingLetter x = new BeggingLetter();
         Due.is("none has a text", nearest(x, "abc", 1), -2);
+        Due.text(x, 0, "0000000");
+        Due.is("letter 0", nearest(x, "0", 0), 0);
+        Due.is("letter 0 by", nearest(x, "0", 1), 6);
         Due.text(x, 3, "abcd");
         Due.text(x, 1, "xbc");
         Due.text(x, 5, "abc");
@@ -98,6 +101,11 @@ final class CopiesTest {
     private static void fromWhom() {
         BeggingLetter x = new BeggingLetter();
         Due.is("none", x.fromWhom(), -2);
+        BeggingLetter y = new BeggingLetter();
+        Due.text(y, 0, "abc");
+        Due.is("letter 0 alone", y.fromWhom(), 0);
+        Due.text(y, 5, "abd");
+        Due.is("the first and the last", y.fromWhom(), 1);
         Due.text(x, 2, "aaaaaa");
         Due.is("one", x.fromWhom(), 0);
         Due.text(x, 4, "aaaabb");

@@ -8,6 +8,7 @@ final class LawTest {
         faults();
         depth();
         stays();
+        manyLaws();
         reckoned();
         refused();
         letters();
@@ -112,6 +113,30 @@ final class LawTest {
         Due.is("fault again", Due.law(x, "g9(1=1);g1(1=1);"), -1016);
         Due.is("rules as again", x.count(6), 1);
         Due.is("as again", x.bestMonth(0, 0, 1), 8);
+    }
+
+    /** However many laws came before. */
+    private static void manyLaws() {
+        BeggingLetter x = one();
+        for (int i = 0; i < 60; i++) {
+            Due.is("law", Due.law(x, "g" + i + "+0*[1+2+3+4+5](1=1&2=2&3=3)"), 1);
+            Due.is("given", x.readsMost(0, 1, 100), i);
+            Due.is("fault", Due.law(x, "g99+0*[1+2+3+4+5](1=1&2=2&3=3);x"), -1032);
+            Due.is("given as before", x.readsMost(0, 1, 100), i);
+        }
+        x.parish(1, 0);
+        x.road(0, 1, 1);
+        for (int i = 0; i < 3; i++) {
+            Due.law(x, "g1(1=2);g5(1=1)");
+        }
+        Due.law(x, "g1(1=2)");
+        Due.is("no rule of an earlier law", x.readsMost(0, 1, 100), 0);
+        for (int i = 0; i < 3; i++) {
+            Due.law(x, "x(1=2);x(1=1)");
+        }
+        Due.is("by x", x.spreads(0, 1), -2);
+        Due.law(x, "x(1=2)");
+        Due.is("no x of an earlier law", x.spreads(0, 1), 1);
     }
 
     /** One parish of wealth 37 with a letter of loss 500, in month 0. */

@@ -180,6 +180,7 @@ final class MonthsTest {
         Due.is("what is not in force does not go on", x.letterIs(0, 4), 1);
         x.letter(3, 0, 1);
         x.letter(4, 0, 1);
+        Due.is("in those that are tried", x.tried(1, 3), 1);
         Due.report(x, "Da+3;Ea+3");
         x.months(1);
         Due.is("two in a month", x.count(1), 4);
@@ -221,6 +222,7 @@ final class MonthsTest {
         x.letter(4, 0, 900);
         Due.law(x, "g30+w-r(1=1);t3*d(1=1);h4(m<4);h2(1=1)");
         for (int n = 1; n <= 20; n++) {
+            Due.report(x, "Ac+7");
             int before = digest(x);
             int[] tried = {x.tried(n, 0), x.tried(n, 1), x.tried(n, 2), x.tried(n, 3), x.tried(n, 10), x.tried(n, 14)};
             Due.is("nothing is changed", digest(x), before);

@@ -151,6 +151,8 @@ final class OrderTest {
         Due.is("tired as it would be: 1, 2, 3, 3, 3", x.readsMost(1, 62, 100), 12);
         x.months(3);
         Due.is("months 1, 2, 3 remembered", x.readsMost(1, 62, 100), 15);
+        Due.law(x, "gd(1=1)");
+        Due.is("no miles", x.readsMost(1, 62, 100), 0);
         Due.law(x, "t0(1=1)");
         Due.is("no rule", x.readsMost(1, 62, 100), 0);
         Due.is("no rule", x.readsMost(1, 62, 4), 5);
@@ -203,6 +205,9 @@ final class OrderTest {
         Due.is("elsewhere", x.bestMonth(1, 0, 0), 0);
         x.months(1);
         Due.is("one month less", x.bestMonth(0, 0, 0), 2);
+        Due.law(x, "g5-r(m=" + x.count(0) % 12 + ")");
+        Due.is("none of a thirteenth month", x.bestMonth(0, 0, 0), 0);
+        Due.is("tired now", x.bestMonth(0, 0, 1), 5 - x.parishIs(0, 1));
         Due.law(x, "gl(1=1)");
         Due.report(x, "Db:77");
         Due.is("as it is told there", x.bestMonth(1, 3, 1), 77);

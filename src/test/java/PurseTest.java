@@ -35,6 +35,10 @@ final class PurseTest {
         bids(0, 11, 10, 0, 1, 2, 3, 4, 5, 6, 7, 8, 9, 10, 11);
         bids(0, 0, 0, 0, 0);
         BeggingLetter x = new BeggingLetter();
+        Due.feed(x, 5, 9, 9);
+        Due.is("the first alone: who", x.bids(1, 0, 0), 0);
+        Due.feed(x, 5, 9, 9);
+        Due.is("the first alone: at how much", x.bids(1, 0, 1), 0);
         x.feed(0, 0, 0, 0, 0);
         Due.is("13", x.bids(13, 0, 0), -1);
         Due.is("0", x.bids(0, 0, 0), -1);
@@ -76,6 +80,7 @@ final class PurseTest {
         divided(0, 2, three, 1, 1, 0);
         divided(0, 5, new int[] {1, 9, 0, 9}, 1, 2, 0, 2);
         divided(0, 6, new int[] {1, 9, 0, 9}, 1, 3, 0, 2);
+        divided(0, 7, new int[] {2, 9, 9}, 2, 3, 2);
         divided(1, 100, three, 0, 0, 100);
         divided(1, 300, three, 0, 100, 200);
         divided(1, 301, three, 1, 100, 200);
@@ -159,6 +164,8 @@ final class PurseTest {
         coins(6, 2, 4, 3, 1, 3, 4);
         coins(6, 2, 1, -2, 3, 4);
         coins(6, 2, 1, -2, 4, 4, 3, 3);
+        coins(8, 2, 1, 2, 4, 4);
+        coins(4, 2, 2, 2, 3, 1);
         coins(30, 3, 5, 6, 25, 1, 10);
         coins(188, 8, 1239, -2, 100, 50, 20, 10, 5, 2);
         coins(126, 6, 1626, 6, 64, 32, 16, 8, 4, 2);
@@ -173,6 +180,15 @@ final class PurseTest {
         coins(0, -3, -3, -3, 0);
         coins(5, -3, -3, -3, 5, 0);
         coins(5, -3, -3, -3, 0, 5);
+        BeggingLetter x = new BeggingLetter();
+        for (int times = 0; times < 2; times++) {
+            Due.feed(x, 2, 3, 7);
+            Due.is("ways", x.coins(3, 14, 1), 5);
+            Due.feed(x, 4, 5);
+            Due.is("other coins", x.coins(2, 14, 0), 3);
+            Due.feed(x, 4, 5);
+            Due.is("other coins by the greatest", x.coins(2, 14, 2), 3);
+        }
     }
 
     private static void coinsArguments() {

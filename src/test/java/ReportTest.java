@@ -39,6 +39,8 @@ final class ReportTest {
             Due.is("the rest of " + pence, x.count(2), farmed);
         }
         Due.is("it is read there", x.letterIs(5, 5), 2048);
+        Due.is("twice", Due.report(x, "Fl+0"), 1);
+        Due.is("it is still read there", x.letterIs(5, 5), 2048);
         Due.is("read where it is not known", Due.report(x, "Fa+3"), 1);
         Due.is("read bits", x.letterIs(5, 5), 2049);
         Due.is("still not known", x.toldAt(5, 0), -2);
@@ -69,6 +71,10 @@ final class ReportTest {
         fault("AA", -1001);
         fault("Am:1", -1001);
         fault("A;", -1001);
+        fault("A:1", -1001);
+        fault("A!", -1001);
+        fault("A+1", -1001);
+        fault("A`:1", -1001);
         fault("Aa", -1002);
         fault("Aa;", -1002);
         fault("Aa-1", -1002);
@@ -109,6 +115,7 @@ final class ReportTest {
         BeggingLetter x = some();
         Due.is("a fault at its end", Due.report(x, "Aa:7;Al:8;Aa+99;Fl!;Fl"), -1022);
         Due.is("told as before", x.toldAt(0, 0), 900);
+        Due.is("none without a fault is kept from", Due.report(x, "Aa:900"), 1);
         Due.is("known as before", x.letterIs(0, 4), 1);
         Due.is("fund as before", x.letterIs(0, 2), 0);
         Due.is("farmed as before", x.count(2), 0);

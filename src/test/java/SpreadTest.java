@@ -181,6 +181,10 @@ final class SpreadTest {
         Due.is("bits", x.tales(0, 0), 7);
         Due.is("the most", x.tales(0, 1), 200);
         Due.is("of like ones the lowest", x.tales(0, 2), 1);
+        Due.report(x, "Aa:302");
+        Due.is("the most at home", x.tales(0, 1), 202);
+        Due.is("at home", x.tales(0, 2), 0);
+        Due.report(x, "Aa:1");
         Due.report(x, "Ac:301");
         Due.is("the most", x.tales(0, 1), 201);
         Due.is("where", x.tales(0, 2), 2);
@@ -198,6 +202,14 @@ final class SpreadTest {
         told(x, 3, 204, false);
         told(x, 2, 102, true);
         told(x, 2, 103, false);
+        x.letter(0, 6, 100);
+        Due.law(x, "t1(1=1)");
+        told(x, 0, 101, true);
+        told(x, 2, 103, true);
+        told(x, 2, 104, true);
+        told(x, 2, 105, false);
+        told(x, 3, 104, true);
+        told(x, 3, 105, false);
         BeggingLetter y = new BeggingLetter();
         y.parish(0, 0);
         y.parish(1, 0);
@@ -209,5 +221,9 @@ final class SpreadTest {
         told(y, 1, 60, true);
         told(y, 1, 61, false);
         told(y, 0, 51, false);
+        y.letter(0, 2, 50);
+        y.road(0, 1, 0);
+        told(y, 0, 50, false);
+        told(y, 1, 60, true);
     }
 }
