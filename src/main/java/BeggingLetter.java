@@ -730,7 +730,7 @@ public final class BeggingLetter {
                 }
                 int readNow = 0;
                 for (int p = 0; p < PARISHES; p++) {
-                    if (land.isTold(p) && isReadIn(p, law)) {
+                    if (land.isTold(p) && readOne(p, law)) {
                         readNow |= 1 << p;
                     }
                 }
@@ -772,8 +772,8 @@ public final class BeggingLetter {
             return source;
         }
 
-        /** Step (2) of a MONTH, for one PARISH: whether a LETTER is READ. */
-        private boolean isReadIn(int p, Law law) {
+        /** Step (2) of a MONTH, for one PARISH; true: a LETTER is READ. */
+        private boolean readOne(int p, Law law) {
             int k = lowestUnread(p);
             if (k < 0) {
                 return false;
