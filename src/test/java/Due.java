@@ -1,3 +1,5 @@
+import java.util.function.IntPredicate;
+
 /** What the tests share: answers that are due, and texts for the tape. */
 final class Due {
     private static int asked = 0;
@@ -20,6 +22,14 @@ final class Due {
 
     static void holds(String what, boolean got) {
         is(what, got, true);
+    }
+
+    /** At both bounds, just within, just beyond and far beyond them: what is within is taken, nothing else. */
+    static void bounds(String what, int least, int most, IntPredicate isTaken) {
+        int[] all = {Integer.MIN_VALUE, least - 1, least, least + 1, most - 1, most, most + 1, Integer.MAX_VALUE};
+        for (int n : all) {
+            is(what + " " + n + " is taken", isTaken.test(n), n >= least && n <= most);
+        }
     }
 
     /** Ends the test: with 1 if an answer was not the one that is due. */
