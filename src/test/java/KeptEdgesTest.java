@@ -1,3 +1,5 @@
+import java.util.function.Consumer;
+
 /** Promises 1, 2, 4, 29 to 32 at their bounds: a new object, what is told anew, what is KEPT and UNDONE, CHECK. */
 final class KeptEdgesTest {
     private KeptEdgesTest() {
@@ -125,6 +127,18 @@ final class KeptEdgesTest {
 
     /** WEALTH, LETTERS, FUNDS, FARMED, THE MONTH, REBUILT, what PARISHES remember, X: one by one. */
     private static void eachThingUndone() {
+        undone("wealth", x -> x.parish(2, 99));
+        undone("a letter", x -> x.letter(5, 0, 50));
+        undone("a letter anew", x -> x.letter(0, 2, 50));
+        undone("what is known", x -> Due.report(x, "Aa:9;Ac:8"));
+        undone("what is not known", x -> Due.report(x, "Aa!;Bb!"));
+        undone("what is given", x -> Due.report(x, "Ac+77;Bc+9"));
+        undone("a month", x -> x.months(1));
+        undone("sixty months", x -> x.months(60));
+        undone("X", x -> x.seed(65535));
+    }
+
+    private static void undone(String name, Consumer<BeggingLetter> call) {
         BeggingLetter x = Given.row(3);
         x.letter(1, 1, 3);
         Due.law(x, "g30(1=1);t7(1=1)");
@@ -132,19 +146,7 @@ final class KeptEdgesTest {
         Due.report(x, "Ba+5;Ab+3");
         int[] before = seen(x);
         x.keep();
-        undone(x, before, "wealth", () -> x.parish(2, 99));
-        undone(x, before, "a letter", () -> x.letter(5, 0, 50));
-        undone(x, before, "a letter anew", () -> x.letter(0, 2, 50));
-        undone(x, before, "what is known", () -> Due.report(x, "Aa:9;Ac:8"));
-        undone(x, before, "what is not known", () -> Due.report(x, "Aa!;Bb!"));
-        undone(x, before, "what is given", () -> Due.report(x, "Ac+77;Bc+9"));
-        undone(x, before, "a month", () -> x.months(1));
-        undone(x, before, "sixty months", () -> x.months(60));
-        undone(x, before, "X", () -> x.seed(65535));
-    }
-
-    private static void undone(BeggingLetter x, int[] before, String name, Runnable call) {
-        call.run();
+        call.accept(x);
         boolean isOther = false;
         int[] now = seen(x);
         for (int i = 0; i < now.length; i++) {

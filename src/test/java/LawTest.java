@@ -118,7 +118,7 @@ final class LawTest {
     /** However many laws came before. */
     private static void manyLaws() {
         BeggingLetter x = one();
-        for (int i = 0; i < 60; i++) {
+        for (int i = 0; i < 40; i++) {
             Due.is("law", Due.law(x, "g" + i + "+0*[1+2+3+4+5](1=1&2=2&3=3)"), 1);
             Due.is("given", x.readsMost(0, 1, 100), i);
             Due.is("fault", Due.law(x, "g99+0*[1+2+3+4+5](1=1&2=2&3=3);x"), -1032);

@@ -2,13 +2,15 @@ import java.util.Random;
 
 /** Random runs of calls of all promises, each answered by the class and by the plain model. */
 final class ModelTest {
-    private static final int RUNS = 600;
-    private static final int CALLS = 500;
+    private static final int RUNS = 1500;
+    /** With the looks at the end no object is called more than 512 times. */
+    private static final int CALLS = 350;
 
     private final Random random;
     private final BeggingLetter x = new BeggingLetter();
     private final Model model = new Model();
     private final int run;
+    private int calls;
 
     private ModelTest(int run) {
         this.run = run;
@@ -34,7 +36,7 @@ final class ModelTest {
         for (int k = random.nextInt(7) - 1; k >= 0; k--) {
             letter(k, random.nextInt(parishes), 100 + random.nextInt(900));
         }
-        for (int i = 0; i < CALLS; i++) {
+        for (int i = 0; i < CALLS && calls < CALLS; i++) {
             call();
         }
         for (int k = 0; k < 6; k++) {
@@ -48,10 +50,12 @@ final class ModelTest {
     }
 
     private void same(String call, int got, int due) {
+        calls++;
         Due.is("run " + run + ": " + call, got, due);
     }
 
     private void same(String call, boolean got, boolean due) {
+        calls++;
         Due.is("run " + run + ": " + call, got, due);
     }
 
@@ -66,6 +70,7 @@ final class ModelTest {
     }
 
     private int told(int what, int most) {
+        calls++;
         int bits = random.nextInt(1 << (what == 3 ? 12 : 6)) & x.count(what);
         while (Integer.bitCount(bits) > most && random.nextInt(20) != 0) {
             bits &= bits - 1;
