@@ -129,6 +129,8 @@ final class LawWorthTest {
         gift("t9(1=1);h9(1=1);x(1=1);g3(1=1)", 3);
         String last = Due.times("g1(1=2);", 15) + "g7(1=1)";
         gift(last, 7);
+        gift(Due.times("g1(1=2);", 15) + "g1+1*[1+1*[1+1*[1+1*3]]](1=1)", 7);
+        gift(Due.times("g1(1=2);", 15) + "g7([1+1*[1+1*[1+1*[1+1*3]]]]=7)", 7);
         gift("g0(1=1);g9(1=1)", 0);
         BeggingLetter x = by(Given.row(2), "g7(1=1);t1(1=2);t2(1=1);t3(1=1)");
         x.months(1);
