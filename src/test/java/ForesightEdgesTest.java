@@ -9,6 +9,8 @@ final class ForesightEdgesTest {
         inHowMany();
         notInForce();
         monthsGoingOn();
+        tiredAsNow();
+        atTheLastMonth();
         spreadChangesNothing();
         miles();
         roundOfOne();
@@ -118,7 +120,7 @@ final class ForesightEdgesTest {
         Due.is("in force again", x.spreads(0, 100), 3);
     }
 
-    /** "(As a MONTH's (1) goes, m going on.)": from THE MONTH on, over the end of a year; r as it is now. */
+    /** "(As a MONTH's (1) goes, m going on.)": from THE MONTH on, over the end of a year. */
     private static void monthsGoingOn() {
         for (int now = 0; now < 25; now++) {
             BeggingLetter x = Given.parishes(2);
@@ -137,6 +139,38 @@ final class ForesightEdgesTest {
         Due.is("l at home", x.spreads(0, 1), 1);
         by(x, "t10(1=1);x(l=100)");
         Due.is("not by l at home", x.spreads(0, 1), -2);
+    }
+
+    /** "(As a MONTH's (1) goes, m going on.)": m alone goes on, r stays as it is now. */
+    private static void tiredAsNow() {
+        BeggingLetter x = Given.row(3);
+        x.letter(1, 1, 5000);
+        Due.report(x, "Ab!");
+        x.road(0, 1, 0);
+        x.months(1);
+        x.road(0, 1, 2);
+        Due.is("tired by another letter", x.parishIs(1, 1), 1);
+        Due.is("not by r of 1", by(x, "x(r=1)").spreads(0, 1), -2);
+        Due.is("by r of 1 alone", by(x, "x(r=0&p=1)").spreads(0, 1), 1);
+        Due.is("by r of 1 alone in any month", by(x, "x(!r=1&p=1);x(!m=7)").spreads(0, 1), 7);
+    }
+
+    /** At THE MONTH 9999 none goes by, but what would be is asked by m going on. */
+    private static void atTheLastMonth() {
+        BeggingLetter x = Given.row(2);
+        Due.law(x, "x(1=1);h10(1=1)");
+        for (int i = 0; i < 167; i++) {
+            x.months(60);
+        }
+        Due.is("the month", x.count(0), 9999);
+        Due.is("none goes by", x.months(1), 0);
+        for (int m = 0; m < 12; m++) {
+            int till = (m - 3 + 12) % 12;
+            by(x, "x(!m=" + m + ");g9(m=" + m + ");h10(1=1)");
+            Due.is("spreads by m " + m, x.spreads(0, 1), till + 1);
+            Due.is("best by m " + m, x.bestMonth(0, 0, 0), till);
+            Due.is("reads most by m " + m, x.readsMost(0, 1, 100), till == 0 ? 9 : 0);
+        }
     }
 
     private static void spreadChangesNothing() {
