@@ -1272,8 +1272,8 @@ public final class BeggingLetter {
         /** READS MOST: by the LETTERS (bits) that are left, the most that is given for them. */
         private final int[] most = new int[1 << LETTERS];
         private int bestGift;
-        /** TALES: by PARISH, the most that a LOSS could be told as; NONE: no way comes there. */
-        private final int[] largest = new int[PARISHES];
+        /** TALES: PARISHES (bits) where it is told as large as no way that was followed makes it. */
+        private int unproved;
 
         /** The trial is one in which the LETTER may spread. */
         void spread(int k, Books trial, Land land, Law law) {
@@ -1390,30 +1390,28 @@ public final class BeggingLetter {
 
         /** PARISHES (bits) where a LETTER is KNOWN as it can't be. */
         int falseTales(int k, Books books, Land land, Law law) {
+            int tooSmall = 0;
             for (int p = 0; p < PARISHES; p++) {
-                largest[p] = NONE;
-            }
-            follow(k, books.home[k], books.loss[k], 0, books, land, law);
-            int wrong = 0;
-            for (int p = 0; p < PARISHES; p++) {
-                int tale = books.tale[k][p];
-                if (hasBit(books.known[k], p) && !isWithin(tale, books.loss[k], largest[p])) {
-                    wrong |= 1 << p;
+                if (hasBit(books.known[k], p) && books.tale[k][p] < books.loss[k]) {
+                    tooSmall |= 1 << p;
                 }
             }
-            return wrong;
+            unproved = books.known[k] & ~tooSmall;
+            follow(k, books.home[k], books.loss[k], 0, books, land, law);
+            return tooSmall | unproved;
         }
 
         /** Goes on from a PARISH where so much is told, by all ways through none that was passed (bits). */
         private void follow(int k, int p, int told, int passed, Books books, Land land, Law law) {
-            largest[p] = Math.max(largest[p], told);
-            int here = passed | (1 << p);
-            if (Integer.bitCount(passed) >= MOST_ROADS) {
-                return;
+            if (books.tale[k][p] <= told) {
+                unproved &= ~(1 << p);
             }
-            for (int q = 0; q < PARISHES; q++) {
+            int here = passed | (1 << p);
+            int road = Integer.bitCount(here);
+            // Most ways have all their ROADS: the last of them is worth asking only where it may prove a tale.
+            for (int q = 0; q < PARISHES && road <= MOST_ROADS && unproved != 0; q++) {
                 int miles = land.roads[p][q];
-                if (miles > 0 && !hasBit(here, q)) {
+                if (miles > 0 && !hasBit(here, q) && (road < MOST_ROADS || hasBit(unproved, q))) {
                     follow(k, q, books.tellOn(k, q, told, miles, law), here, books, land, law);
                 }
             }

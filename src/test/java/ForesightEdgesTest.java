@@ -26,6 +26,7 @@ final class ForesightEdgesTest {
         bestAsTiredAsWouldBe();
         talesOfTruth();
         talesOfFourRoads();
+        talesAllAlongARow();
         talesNoParishTwice();
         talesOfNow();
         talesWhereNoneComes();
@@ -472,6 +473,25 @@ final class ForesightEdgesTest {
         for (int p = 1; p < 7; p++) {
             told(x, p, most[p], true);
             told(x, p, most[p] + 1, false);
+        }
+    }
+
+    /** "At most 4 ROADS", where a LETTER is KNOWN all along: what came by five can't be true. */
+    private static void talesAllAlongARow() {
+        for (int home = 0; home < 12; home++) {
+            BeggingLetter x = by(Given.row(12), "t10(1=1)");
+            x.letter(0, home, 100);
+            int far = 0;
+            for (int p = 0; p < 12; p++) {
+                far |= Math.abs(p - home) > 4 ? 1 << p : 0;
+            }
+            x.months(11);
+            Due.is("known everywhere from " + home, x.letterIs(0, 4), 4095);
+            Due.is("told true from " + home, x.tales(0, 0), far);
+            by(x, "t9(1=1)");
+            Due.is("all too large but at home " + home, x.tales(0, 0), 4095 ^ 1 << home);
+            by(x, "t11(1=1)");
+            Due.is("smaller than could be from " + home, x.tales(0, 0), far);
         }
     }
 
